@@ -37,6 +37,7 @@ public final class BlackSun {
     private static final int CHECKED = 3;
     private static final int MOST_FITTED = 3;
 
+    // What a test is made of; from OP_PLUS on, the greater the number, the less it binds.
     private static final int OP_NUMBER = 0;
     private static final int OP_WORD = 1;
     private static final int OP_PLUS = 2;
@@ -49,7 +50,9 @@ public final class BlackSun {
     private static final int OP_NOT = 9;
     private static final int OP_AND = 10;
     private static final int OP_OR = 11;
+    private static final int OP_BRACKET = 12;
     private static final int OP_BITS = 4;
+    private static final int STACK = 64;
 
     private static final int THOUSAND = 1000;
     private static final int MOST_NUMBER = 99999;
@@ -609,7 +612,7 @@ public final class BlackSun {
                 case TURN:
                     return axis == 0 ? -y[star] : x[star];
                 case LIGHT:
-                    int far = far(star);
+                    int far = x[star] * x[star] + y[star] * y[star];
                     return far == 0 ? 0 : LIGHT_PULL * along / far;
                 case BEND:
                     return axis == 0 ? x[star] * y[star] : 0;
@@ -1052,6 +1055,15 @@ public final class BlackSun {
         private static final int MOST_COUNTED = 60;
         private static final int MOST_DIGITS = 5;
 
+        // Where a test is read: what may come next depends on it.
+        private static final int AT_FACT = 0;
+        private static final int AT_LEFT = 1;
+        private static final int AFTER_LEFT = 2;
+        private static final int AT_RIGHT = 3;
+        private static final int AFTER_RIGHT = 4;
+        private static final int AFTER_BRACKET = 5;
+        private static final int AT_END = 6;
+
         int length;
         int fault;
         private final int[] tape = new int[TAPE_BYTES];
@@ -1059,6 +1071,10 @@ public final class BlackSun {
         private int counted;
         private int fitted;
         private int hand;
+        private int state;
+        private int deep;
+        private int waitingCount;
+        private final int[] waiting = new int[STACK];
         private int stepCount;
         private final int[] steps = new int[TAPE_BYTES];
         private final int[] doing = new int[TERMS];
@@ -1179,8 +1195,15 @@ public final class BlackSun {
                 return fail(place, CANNOT_STAND);
             }
             boolean isFirst = stepCount == 0;
-            if (!readTest(0)) {
-                return false;
+            waitingCount = 0;
+            deep = 0;
+            state = AT_FACT;
+            // Each turn but the last reads a byte at least.
+            for (int i = 0; i <= TAPE_BYTES && state != AT_END; i++) {
+                boolean isOperand = state == AT_FACT || state == AT_LEFT || state == AT_RIGHT;
+                if (!(isOperand ? readOperand() : readOperator())) {
+                    return false;
+                }
             }
             if (!isFirst) {
                 step(OP_OR, 0);
@@ -1188,118 +1211,109 @@ public final class BlackSun {
             return true;
         }
 
-        private boolean readTest(int depth) {
-            if (!readPart(depth)) {
-                return false;
-            }
-            for (int i = 0; i < TAPE_BYTES; i++) {
-                next();
-                if (takeWord("or ") == NONE) {
-                    return true;
-                }
-                if (!readPart(depth)) {
-                    return false;
-                }
-                step(OP_OR, 0);
-            }
-            return false;
-        }
-
-        private boolean readPart(int depth) {
-            if (!readFact(depth)) {
-                return false;
-            }
-            for (int i = 0; i < TAPE_BYTES; i++) {
-                next();
-                if (takeWord("and ") == NONE) {
-                    return true;
-                }
-                if (!readFact(depth)) {
-                    return false;
-                }
-                step(OP_AND, 0);
-            }
-            return false;
-        }
-
-        private boolean readFact(int depth) {
+        private boolean readOperand() {
             boolean isBracket = next() == '[';
             int start = place;
-            if (isBracket) {
+            if (state == AT_FACT && isBracket) {
                 place++;
-            } else if (takeWord("not ") == NONE) {
-                return readComparison();
+                return openDeeper(start, OP_BRACKET);
             }
-            if (depth >= MOST_DEEP) {
+            if (state == AT_FACT && takeWord("not ") != NONE) {
+                return openDeeper(start, OP_NOT);
+            }
+            state = state == AT_RIGHT ? AFTER_RIGHT : AFTER_LEFT;
+            return readValue();
+        }
+
+        private boolean openDeeper(int start, int op) {
+            if (deep >= MOST_DEEP) {
                 return fail(start, TOO_DEEP);
             }
-            if (!isBracket) {
-                boolean isRead = readFact(depth + 1);
-                step(OP_NOT, 0);
-                return isRead;
+            deep++;
+            await(op);
+            return true;
+        }
+
+        private boolean readOperator() {
+            int sign = next();
+            if (state != AFTER_BRACKET && (sign == '+' || sign == '-')) {
+                place++;
+                bind(OP_MINUS);
+                await(sign == '+' ? OP_PLUS : OP_MINUS);
+                state = state == AFTER_LEFT ? AT_LEFT : AT_RIGHT;
+                return true;
             }
-            if (!readTest(depth + 1)) {
-                return false;
+            if (state == AFTER_LEFT) {
+                return readSign(sign);
             }
-            if (next() != ']') {
+            boolean isAnd = takeWord("and ") != NONE;
+            if (isAnd || takeWord("or ") != NONE) {
+                int op = isAnd ? OP_AND : OP_OR;
+                bind(op);
+                await(op);
+                state = AT_FACT;
+                return true;
+            }
+            return readClosing(sign);
+        }
+
+        private boolean readSign(int first) {
+            if (first != '<' && first != '=' && first != '>') {
                 return fail(place, CANNOT_STAND);
             }
-            place++;
-            return true;
-        }
-
-        private boolean readComparison() {
-            if (!readSum()) {
+            if (!countOneMore(place)) {
                 return false;
             }
-            next();
-            int start = place;
-            int sign = takeSign();
-            if (sign == NONE) {
-                return fail(start, CANNOT_STAND);
-            }
-            if (!countOneMore(start) || !readSum()) {
-                return false;
-            }
-            step(sign, 0);
-            return true;
-        }
-
-        private int takeSign() {
-            int first = next();
-            if (first != '<' && first != '=' && first != '>') {
-                return NONE;
-            }
             place++;
-            if (first == '=') {
-                return OP_EQUAL;
-            }
-            boolean isWide = place < length && tape[place] == '=';
+            boolean isWide = first != '=' && place < length && tape[place] == '=';
             if (isWide) {
                 place++;
             }
-            if (first == '<') {
-                return isWide ? OP_AT_MOST : OP_BELOW;
+            bind(OP_MINUS);
+            if (first == '=') {
+                await(OP_EQUAL);
+            } else if (first == '<') {
+                await(isWide ? OP_AT_MOST : OP_BELOW);
+            } else {
+                await(isWide ? OP_AT_LEAST : OP_ABOVE);
             }
-            return isWide ? OP_AT_LEAST : OP_ABOVE;
+            state = AT_RIGHT;
+            return true;
         }
 
-        private boolean readSum() {
-            if (!readValue()) {
-                return false;
+        /** A bracket closes here, or else the test ends, and what follows is the clause's affair. */
+        private boolean readClosing(int sign) {
+            bind(OP_OR);
+            if (waitingCount == 0) {
+                state = AT_END;
+                return true;
             }
-            for (int i = 0; i < TAPE_BYTES; i++) {
-                int sign = next();
-                if (sign != '+' && sign != '-') {
-                    return true;
-                }
-                place++;
-                if (!readValue()) {
-                    return false;
-                }
-                step(sign == '+' ? OP_PLUS : OP_MINUS, 0);
+            if (sign != ']') {
+                return fail(place, CANNOT_STAND);
             }
-            return false;
+            place++;
+            waitingCount--;
+            deep--;
+            state = AFTER_BRACKET;
+            return true;
+        }
+
+        private void await(int op) {
+            if (waitingCount < STACK) {
+                waiting[waitingCount] = op;
+                waitingCount++;
+            }
+        }
+
+        /** Makes steps of all that waits and binds as much as an op, or more. */
+        private void bind(int op) {
+            for (int i = waitingCount - 1; i >= 0 && waiting[i] <= op; i--) {
+                step(waiting[i], 0);
+                if (waiting[i] == OP_NOT) {
+                    deep--;
+                }
+                waitingCount = i;
+            }
         }
 
         private boolean readValue() {
@@ -1355,32 +1369,26 @@ public final class BlackSun {
 
         /** Which of the list's words stands here, and steps over it; NONE, and stays, if none does. */
         private int takeWord(String list) {
-            int end = place;
-            while (end < length && tape[end] >= 'a' && tape[end] <= 'z') {
-                end++;
-            }
             int number = 0;
-            int from = 0;
+            int end = place;
+            boolean isSame = true;
             for (int i = 0; i < list.length(); i++) {
-                if (list.charAt(i) == ' ') {
-                    if (i - from == end - place && isSame(list, from, i)) {
+                char letter = list.charAt(i);
+                if (letter != ' ') {
+                    isSame = isSame && end < length && tape[end] == letter;
+                    end++;
+                } else {
+                    boolean goesOn = end < length && tape[end] >= 'a' && tape[end] <= 'z';
+                    if (isSame && !goesOn) {
                         place = end;
                         return number;
                     }
                     number++;
-                    from = i + 1;
+                    end = place;
+                    isSame = true;
                 }
             }
             return NONE;
-        }
-
-        private boolean isSame(String list, int from, int to) {
-            for (int i = from; i < to; i++) {
-                if (list.charAt(i) != tape[place + i - from]) {
-                    return false;
-                }
-            }
-            return true;
         }
 
         private void step(int op, int operand) {
@@ -1398,7 +1406,6 @@ public final class BlackSun {
 
     /** The fit of a way: open takes the images and makes the sums, the solve methods answer from them. */
     private static final class Fit {
-        private static final int STACK = 64;
         /** A row of the equations has this many places, the last of them for what is measured. */
         private static final int WIDE = MOST_FITTED + 1;
         private static final int TAKEN = MOST_FITTED * WIDE;
@@ -1439,7 +1446,12 @@ public final class BlackSun {
         /** False, if a check has nothing to fit: then there is no answer. */
         boolean open(Book book, Way way, int known) {
             take(book, way, known);
-            return settle(book, way, known, NONE);
+            if (!settle(book, way, known, NONE)) {
+                return false;
+            }
+            makeRows(book);
+            addUp(book.images);
+            return true;
         }
 
         /** Light is held at a number of thousandths, if there is one, whatever the way does with it. */
@@ -1457,8 +1469,6 @@ public final class BlackSun {
                     return false;
                 }
             }
-            makeRows(book);
-            addUp(book.images);
             return true;
         }
 
@@ -1641,12 +1651,16 @@ public final class BlackSun {
             long least = 0;
             for (int i = 0; i < 3; i++) {
                 int light = i == 0 ? a : i == 1 ? b : c;
-                if (settle(book, way, known, light) && solveAll()) {
-                    long missed = missed();
-                    if (best < 0 || missed < least) {
-                        best = i;
-                        least = missed;
-                    }
+                // A check that has nothing has nothing for the others, too.
+                if (!settle(book, way, known, light)) {
+                    return best;
+                }
+                makeRows(book);
+                addUp(book.images);
+                long missed = solveAll() ? missed() : NONE;
+                if (missed != NONE && (best < 0 || missed < least)) {
+                    best = i;
+                    least = missed;
                 }
             }
             return best;
