@@ -116,7 +116,9 @@ public final class PromisesTest {
         BlackSun b = new BlackSun();
         due("star at the sun", b.star(0, 0, 1), -1);
         due("star x -10", b.star(-10, 0, 1), -1);
+        due("star x 10", b.star(10, 1, 1), -1);
         due("star y 10", b.star(0, 10, 1), -1);
+        due("star y -10", b.star(1, -10, 1), -1);
         due("star bright -1", b.star(1, 1, -1), -1);
         due("star bright 100", b.star(1, 1, 100), -1);
         due("star", b.star(-9, 9, 99), 0);
@@ -176,6 +178,8 @@ public final class PromisesTest {
         due("hand 8", b.image(0, 0, 8, 0, 0), -1);
         due("hand -1", b.image(0, 0, -1, 0, 0), -1);
         due("dx 300", b.image(0, 0, 0, 300, 0), -1);
+        due("dx -300", b.image(0, 0, 0, -300, 0), -1);
+        due("dy 300", b.image(0, 0, 0, 0, 300), -1);
         due("dy -300", b.image(0, 0, 0, 0, -300), -1);
         due("image", b.image(0, 0, 7, 299, -299), 0);
         due("told anew in its week", b.image(0, 0, 7, 3, 4), 1);
@@ -256,6 +260,8 @@ public final class PromisesTest {
         faulty("fitlight", 0, 0);
         faulty("fits light", 0, 0);
         faulty("Fit light", 0, 0);
+        faulty("fita light", 0, 0);
+        faulty("fitz light", 0, 0);
         faulty(";fit light", 0, 0);
         faulty("fit", 3, 0);
         faulty("fit  ", 5, 0);
@@ -469,13 +475,50 @@ public final class PromisesTest {
         b.image(1, 0, 0, 40, 0);
         due("night turned, without light", b.answer(light, 4, 0), 190);
         due("light by night alone", b.answer(nightly, 4, 0), NO);
-        due("east by Cramer", b.answer(threeTerms, 0, 0), -6534);
+        due("east of three", b.answer(threeTerms, 0, 0), -6534);
+        due("north of three", b.answer(threeTerms, 1, 0), -7134);
+        due("turn of three", b.answer(threeTerms, 3, 0), 200);
         due("way 7", b.answer(7, 4, 0), NOT_THERE);
         due("term 6", b.answer(0, 6, 0), NOT_THERE);
         due("term -1", b.answer(0, -1, 0), NOT_THERE);
         due("week -1", b.answer(0, 4, -1), NOT_THERE);
         beyond(1);
         beyond(-1);
+        checks();
+        threeAtOnce();
+    }
+
+    /** Checks of several stars, in x and y, by the way's hand alone; and a held term of each plate. */
+    private static void checks() {
+        BlackSun b = small();
+        b.star(3, 4, 0);
+        way(b, "check scale;hold east 2999;hand 1;fit north");
+        b.image(2, 2, 0, 99, 99);
+        b.image(0, 0, 1, 0, 8);
+        due("no check by its hand", b.answer(0, 1, 0), NO);
+        b.image(2, 0, 1, 6, 5);
+        b.image(2, 2, 1, 10, -20);
+        due("of two stars", b.answer(0, 2, 0), Math.floorDiv((6 + 30 - 80) * 1000, 26));
+        due("fitted beside it", b.answer(0, 1, 0), 8000);
+        due("what is left in x", b.miss(0, 0), (-2 + 1) * (-2 + 1));
+    }
+
+    /** Three terms that all mix: 2 east, 3 scale and 5 bend are put in and found again. */
+    private static void threeAtOnce() {
+        BlackSun b = new BlackSun();
+        int[][] stars = {{1, 2}, {3, -1}, {-2, 2}};
+        b.plate(0, 0, 0);
+        way(b, "fit scale;fit bend;fit east");
+        for (int i = 0; i < 3; i++) {
+            int x = stars[i][0];
+            int y = stars[i][1];
+            b.star(x, y, 0);
+            b.image(0, i, 0, 2 + 3 * x + 5 * x * y, 3 * y);
+        }
+        due("east", b.answer(0, 0, 0), 2000);
+        due("scale", b.answer(0, 2, 0), 3000);
+        due("bend", b.answer(0, 5, 0), 5000);
+        due("nothing is left", b.miss(0, 0), 0);
     }
 
     /** Answers beyond 99999999 thousandths are none: checks make measures great, and two terms are almost one. */
@@ -547,6 +590,13 @@ public final class PromisesTest {
         due("what 2", b.span(0, 0, 2), NOT_THERE);
         due("way 3", b.span(3, 0, 0), NOT_THERE);
         due("week 10000", b.span(0, 10000, 0), NOT_THERE);
+        BlackSun plates = small();
+        way(plates, "fit light");
+        plates.plate(0, 0, 0);
+        plates.image(0, 0, 0, 20, 0);
+        plates.image(3, 0, 0, 40, 0);
+        due("the least by plates", plates.span(0, 0, 0), 500);
+        due("the greatest by plates", plates.span(0, 0, 1), 1000);
         BlackSun one = small();
         way(one, "fit light");
         due("nothing taken", one.span(0, 0, 0), NO);
@@ -579,6 +629,11 @@ public final class PromisesTest {
         due("the ninth of them stays, the set", b.ruled(0, 4, 0, 1000, 0), 8);
         due("the least number of two that are as near", b.ruled(0, 4, 0, 3000, 0), 1);
         due("below all", b.ruled(0, 4, 0, -99999, 1), 2333);
+        due("the fewest of two that are as near", fewest(), 8);
+        b.image(8, 0, 0, 240, 0);
+        due("the eighth of them may be left out", b.ruled(0, 4, 0, 2500, 0), 256);
+        b.image(2, 0, 0, 40, 0);
+        due("the least number of two as near and as few", b.ruled(0, 4, 0, 3500, 0), 1);
         due("number -100000", b.ruled(0, 4, 0, -100000, 0), NOT_THERE);
         due("number 100000", b.ruled(0, 4, 0, 100000, 0), NOT_THERE);
         due("what 2", b.ruled(0, 4, 0, 0, 2), NOT_THERE);
@@ -586,6 +641,21 @@ public final class PromisesTest {
         due("term 6", b.ruled(0, 6, 0, 0, 0), NOT_THERE);
         due("way 1", b.ruled(1, 4, 0, 0, 0), NOT_THERE);
         due("week -1", b.ruled(0, 4, -1, 0, 0), NOT_THERE);
+    }
+
+    /** Without plates 0 and 2, or without plate 3, light is 3000; plate 9 always stays. */
+    private static int fewest() {
+        BlackSun b = new BlackSun();
+        b.star(1, 0, 0);
+        for (int i = 0; i < 10; i++) {
+            b.plate(0, 0, 0);
+        }
+        way(b, "fit light");
+        b.image(0, 0, 0, 40, 0);
+        b.image(2, 0, 0, 160, 0);
+        b.image(3, 0, 0, 80, 0);
+        b.image(9, 0, 0, 160, 0);
+        return b.ruled(0, 4, 0, 3000, 0);
     }
 
     private static void threes() {
@@ -674,6 +744,7 @@ public final class PromisesTest {
         due("hand -1", b.tell(-1, 0), false);
         due("tell", b.tell(2, 5), true);
         due("a later week changes nothing", b.tell(2, 9), true);
+        due("the first week", b.tell(7, 0), true);
         promise = 23;
         due("before", b.knows(2, 4), 0);
         due("from it on", b.knows(2, 5), 1);
@@ -723,6 +794,17 @@ public final class PromisesTest {
         b.image(0, 0, 4, 7, 7);
         b.image(0, 0, 5, 7, 7);
         due("one that did not move, plate", b.again(4, 5, 9, 4), 0);
+        b.image(0, 1, 4, 7, 7);
+        b.image(0, 1, 5, 7, 7);
+        due("none moved, star", b.again(4, 5, 9, 5), 0);
+        b.image(2, 0, 6, 0, 0);
+        b.image(2, 0, 7, 3, 0);
+        b.image(0, 1, 6, 0, 0);
+        b.image(0, 1, 7, 0, 3);
+        b.image(1, 0, 6, 0, 0);
+        b.image(1, 0, 7, 0, -3);
+        due("the first by plates, then by stars: plate", b.again(6, 7, 9, 4), 0);
+        due("the first by plates, then by stars: star", b.again(6, 7, 9, 5), 1);
         due("one hand", b.again(3, 3, 9, 0), -1000000);
         due("hand 8", b.again(3, 8, 9, 0), -1000000);
         due("week 10000", b.again(3, 0, 10000, 0), -1000000);
@@ -756,6 +838,7 @@ public final class PromisesTest {
         due("not more apart", b.quarrel(0, 0, 0, 1, 512), 0);
         due("not more apart, turned about", b.quarrel(0, 0, 1, 0, 512), 0);
         due("one has none", b.quarrel(0, 0, 0, 3, 0), 0);
+        due("the first has none", b.quarrel(0, 0, 3, 0, 0), 0);
         due("one island", b.quarrel(0, 0, 2, 2, 0), -1);
         due("island 4", b.quarrel(0, 0, 4, 2, 0), -1);
         due("off -1", b.quarrel(0, 0, 0, 1, -1), -1);
@@ -806,6 +889,7 @@ public final class PromisesTest {
         promise = 30;
         due("no fields", b.planned(999, 0), 0);
         promise = 29;
+        due("one minute, no stars", new BlackSun().field(1, 0), 0);
         due("field", b.field(3, 1), 0);
         due("field", b.field(2, 2), 1);
         due("field", b.field(4, 6), 2);
@@ -844,8 +928,12 @@ public final class PromisesTest {
         due("towards 0, by more", b.right(0, 1, 499, 0, 1, 24), 1);
         due("left out as measured", b.right(1, 1, 500, 0, 3, 99999), 0);
         due("no check", b.right(3, 1, 500, 0, 3, 99999), 0);
+        due("law 0, seed 0", b.right(0, 0, 0, 0, 3, 0), 3);
+        way(b, "fit light;hold east 5999");
+        due("less what is held", b.right(4, 1, 1010, 0, 2, 134), 0);
+        due("less what is held, by more", b.right(4, 1, 1010, 0, 2, 135), 2);
         slips(b);
-        due("way 4", b.right(4, 1, 500, 0, 3, 1), -1);
+        due("way 5", b.right(5, 1, 500, 0, 3, 1), -1);
         due("seed -1", b.right(0, -1, 500, 0, 3, 1), -1);
         due("the greatest seed", b.right(0, Integer.MAX_VALUE, 500, 0, 3, 1), 3);
         due("law -1", b.right(0, 1, -1, 0, 3, 1), -1);
@@ -861,6 +949,13 @@ public final class PromisesTest {
     /** One star on a dark plate and on a night plate: east is what the night says, light the rest. */
     private static void slips(BlackSun b) {
         b.image(1, 0, 0, 9, 0);
+        for (int off = 0; off <= 250; off += 25) {
+            due("slips by seed, on and on", b.right(2, 77, 1010, 7, 20, off), nearWorlds(off));
+        }
+        due("some and not all are near", nearWorlds(100) > 0 && nearWorlds(100) < 20, true);
+    }
+
+    private static int nearWorlds(int off) {
         long x0 = 77;
         int near = 0;
         for (int world = 0; world < 20; world++) {
@@ -871,12 +966,11 @@ public final class PromisesTest {
             }
             int east = -slip[2];
             int light = Math.floorDiv((40 + slip[0] - east) * 1000, 40);
-            if (Math.abs(light - 1000) <= 100) {
+            if (Math.abs(light - 1010) <= off) {
                 near++;
             }
         }
-        due("slips by seed, on and on", b.right(2, 77, 1000, 7, 20, 100), near);
-        due("some and not all are near", near > 0 && near < 20, true);
+        return near;
     }
 
     private static void glasses() {
@@ -926,11 +1020,16 @@ public final class PromisesTest {
         b.glass(0, 2, 0, 0);
         due("all alike", b.heat(0, 0, 0), 0);
         b.glass(0, 2, 0, 1);
-        due("the hottest", b.heat(0, 0, 0), 0);
+        due("by less than a hair", b.heat(0, 0, 0), 0);
         b.glass(0, 1, 0, 99);
         b.image(0, 1, 0, 5, 299);
         b.image(0, 1, 1, 5, 299);
         due("hotter and hotter", b.heat(0, 0, 0), 91);
+        b.glass(0, 1, 0, 0);
+        b.glass(0, 2, 0, 91);
+        due("the hottest", b.heat(0, 0, 0), 99);
+        b.glass(0, 2, 0, 90);
+        due("none hotter than 99", b.heat(0, 0, 0), 95);
     }
 
     private static void marks() {
@@ -974,6 +1073,7 @@ public final class PromisesTest {
         due("said again", b.could(0, 0, false), 1);
         due("field again", b.planned(9, 0), 1);
         due("glass again", b.stands(0, 0, 0, 0), 2);
+        due("glass of another island again", b.stands(3, 2, 0, 0), 49 * (7000 + 3) / 1000);
         due("knows again", b.knows(1, 3), 1);
         due("knows of another", b.knows(4, 9), 0);
         b.image(0, 0, 0, 99, 9);
@@ -996,6 +1096,7 @@ public final class PromisesTest {
         b.say(0, 750);
         b.field(9, 7);
         b.glass(0, 0, 2000, 0);
+        b.glass(2, 5, 7000, 3);
         b.tell(1, 3);
         tape(b, "fit n");
     }
