@@ -1,15 +1,11 @@
-import java.nio.charset.StandardCharsets;
-import java.util.Arrays;
-
-/** For each promise of the document at least one answer that would not be as due if it were broken. */
-public final class PromisesTest {
-    private static final int NO = -1000000000;
-    private static final int NOT_THERE = -2000000000;
+/** For each promise of the document ordinary, edge and wrong inputs in one run; the edges one by one are in Edges*Test. */
+public final class PromisesTest extends Bench {
+    private static final int NO = NO_ANSWER;
     private static int checked = 0;
     private static int wrong = 0;
     private static int promise = 0;
 
-    private static void due(String what, long got, long want) {
+    static void due(String what, long got, long want) {
         checked++;
         if (got != want) {
             wrong++;
@@ -17,49 +13,16 @@ public final class PromisesTest {
         }
     }
 
-    private static void due(String what, boolean got, boolean want) {
+    static void due(String what, boolean got, boolean want) {
         due(what, got ? 1 : 0, want ? 1 : 0);
     }
 
-    /** Puts a text on the tape, which is empty before. */
-    private static void tape(BlackSun b, String text) {
-        byte[] bytes = Arrays.copyOf(text.getBytes(StandardCharsets.ISO_8859_1), (text.length() + 19) / 20 * 20);
-        for (int at = 0; at < bytes.length; at += 20) {
-            int[] n = new int[5];
-            for (int i = 0; i < 20; i++) {
-                n[i / 4] = n[i / 4] << 8 | bytes[at + i] & 255;
-            }
-            b.feed(n[0], n[1], n[2], n[3], n[4]);
-        }
-        b.end(text.length());
-    }
-
-    private static int way(BlackSun b, String text) {
-        tape(b, text);
-        return b.way();
-    }
-
-    private static int fault(int place, int why) {
-        return -2 - (1 + 8 * place + why);
-    }
-
-    private static void faulty(String text, int place, int why) {
+    static void faulty(String text, int place, int why) {
         due("way() of '" + text + "'", way(new BlackSun(), text), fault(place, why));
     }
 
-    private static void fine(String text) {
+    static void fine(String text) {
         due("way() of '" + text + "'", way(new BlackSun(), text), 0);
-    }
-
-    /** Two stars, (1, 0) and (0, 2), that light draws by 40 and 20; plates 0 dark, 1 night, 2 check, of island 0. */
-    private static BlackSun small() {
-        BlackSun b = new BlackSun();
-        b.star(1, 0, 5);
-        b.star(0, 2, 50);
-        b.plate(0, 0, 10);
-        b.plate(0, 1, 20);
-        b.plate(0, 2, 30);
-        return b;
     }
 
     public static void main(String[] args) {
