@@ -139,6 +139,27 @@ abstract class Bench {
         return b;
     }
 
+    /**
+     * All that there can be: thirty stars at (1, 0), sixteen dark plates, of island p % 4, a hundred images of 20, 0,
+     * each of another star and plate, by hand i % 8, and ten ways, all "fit light" but for the first.
+     */
+    static BlackSun crowd(String firstWay) {
+        BlackSun b = new BlackSun();
+        for (int i = 0; i < 30; i++) {
+            b.star(1, 0, i);
+        }
+        for (int p = 0; p < 16; p++) {
+            b.plate(p % 4, 0, 50);
+        }
+        for (int i = 0; i < 100; i++) {
+            b.image(i % 16, i % 30, i % 8, 20, 0);
+        }
+        for (int i = 0; i < 10; i++) {
+            way(b, i == 0 ? firstWay : "fit light");
+        }
+        return b;
+    }
+
     static void dueCounts(BlackSun b, int... want) {
         for (int what = 0; what < want.length; what++) {
             due("count " + what, b.count(what), want[what]);

@@ -509,6 +509,13 @@ public final class Edges01To10Test extends Bench {
         due(b.images(0, 0, 1, 0, 0), 4);
     }
 
+    static void promise07_ofAHundredImages() {
+        BlackSun b = crowd("fit light");
+        due(b.images(99 % 16, 99 % 30, 99 % 8, 0, 0), 20);
+        due(b.images(99 % 16, 99 % 30, 99 % 8, 0, 1), 0);
+        due(b.images(0, 29, 0, 0, 0), -1000);
+    }
+
     // ---- 8: gives
 
     static void promise08_eachTerm() {
@@ -692,6 +699,25 @@ public final class Edges01To10Test extends Bench {
         due(b.end(9), 9);
         due(b.end(12), -1);
         due(b.way(), 0);
+    }
+
+    static void promise10_whatIsCutOffIsNotRead() {
+        String[] texts = {"leave if x<=1", "hand 12", "fit lights", "fit light;fit"};
+        int[] cuts = {11, 6, 9, 9};
+        int[] answers = {fault(11, 0), 0, 0, 0};
+        for (int i = 0; i < texts.length; i++) {
+            BlackSun b = new BlackSun();
+            tape(b, texts[i]);
+            due(texts[i], b.end(cuts[i]), cuts[i]);
+            due(texts[i], b.way(), answers[i]);
+        }
+    }
+
+    static void promise10_whatWasReadBeforeIsNotReadAgain() {
+        BlackSun b = new BlackSun();
+        way(b, "hand 7;fit light;fit bend");
+        due(way(b, "hand"), fault(4, 0));
+        due(way(b, "hand 7;"), fault(7, 0));
     }
 
     static void promise10_ofAFullTape() {

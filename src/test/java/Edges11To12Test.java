@@ -75,6 +75,9 @@ public final class Edges11To12Test extends Bench {
         fine(" ".repeat(391) + "fit light");
         faulty(" ".repeat(400), 400, 0);
         faulty(" ".repeat(399) + "f", 399, 0);
+        fine(" ".repeat(394) + "hand 1");
+        faulty(" ".repeat(389) + "leave if x<", 400, 0);
+        faulty(" ".repeat(397) + "fit", 400, 0);
     }
 
     // ---- 11: clauses
@@ -292,6 +295,23 @@ public final class Edges11To12Test extends Bench {
         faulty("leave if x=1 ory=1", 13, 0);
         faulty("leave if xx=1", 9, 0);
         faulty("leave if fit=1", 9, 0);
+    }
+
+    static void promise11_theSmallLettersAreAToZ() {
+        faulty("fita light", 0, 0);
+        faulty("fitz light", 0, 0);
+        faulty("fit lighta", 4, 0);
+        faulty("fit lightz", 4, 0);
+        // The signs on both sides of them are no letters.
+        faulty("fit`light", 3, 0);
+        faulty("fit{light", 3, 0);
+    }
+
+    static void promise11_digitsAre0To9() {
+        fine("hold light 10239");
+        // The signs on both sides of them are no digits.
+        faulty("hold light 1/", 12, 0);
+        faulty("hold light 1:", 12, 0);
     }
 
     static void promise11_aWordEndsBeforeAnyOtherSign() {
@@ -521,6 +541,25 @@ public final class Edges11To12Test extends Bench {
     static void promise11_aSignThatIsNoneBehindSixtyIsTheLesserFault() {
         faulty("leave if 1" + "+1".repeat(59) + " 1", 129, 0);
         faulty("leave if 1" + "+1".repeat(59), 128, 0);
+    }
+
+    static void promise11_eachWayCountsAnew() {
+        BlackSun b = new BlackSun();
+        due(way(b, "leave if " + SIXTY), 0);
+        due(way(b, "leave if " + SIXTY), 1);
+        due(way(b, "leave if " + SIXTY + " or y=1"), fault(149, 3));
+        due(way(b, "leave if " + SIXTY), 2);
+    }
+
+    static void promise11_aFaultLeavesNothingBehind() {
+        BlackSun b = new BlackSun();
+        way(b, "leave if " + "[not ".repeat(5) + "x=");
+        due(way(b, "leave if " + "[".repeat(10) + "x=1" + "]".repeat(10)), 0);
+        way(b, "hand 1;fit east;fit north;fit scale;xxx");
+        due(way(b, "hand 2;fit north;fit scale;fit turn"), 1);
+        due(b.ways(1, EAST), 0);
+        way(b, "leave if [x=1 or x=1;");
+        due(way(b, "leave if x=1]"), fault(12, 0));
     }
 
     // ---- 11: the first fault

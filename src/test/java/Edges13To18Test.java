@@ -54,6 +54,14 @@ public final class Edges13To18Test extends Bench {
         due(b.takes(0, 0, 100), -1);
     }
 
+    static void promise13_aWayHasNoLeavesOfTheOneBefore() {
+        BlackSun b = small("leave if 1=1", "fit light", "leave if 1=2");
+        b.image(0, 0, 0, 1, 1);
+        due(b.takes(0, 0, -1), 0);
+        due(b.takes(1, 0, -1), 1);
+        due(b.takes(2, 0, -1), 1);
+    }
+
     static void promise13_knownByTheWeek() {
         BlackSun b = small("fit light");
         b.clock(5);
@@ -276,6 +284,103 @@ public final class Edges13To18Test extends Bench {
     static void promise14_aNumberBelowMinus99999999IsNoAnswer() {
         BlackSun b = great(new int[] {288, -125, -298, -71, 287, -27}, -1);
         due(b.answer(0, EAST, 0), NO_ANSWER);
+    }
+
+    static void promise14_exactly99999999IsAnAnswer() {
+        due(greatMeans(1).answer(0, NORTH, 0), 99999999);
+    }
+
+    static void promise14_exactlyMinus99999999IsAnAnswer() {
+        due(greatMeans(-1).answer(0, NORTH, 0), -99999999);
+    }
+
+    /** North, turn and light are almost one here; each star has 25 images, so that north is so many thousandths exactly. */
+    private static BlackSun greatMeans(int sign) {
+        BlackSun b = new BlackSun();
+        int[][] all = {{-4, 7, 163, -917}, {-9, 8, -562, 1009}, {-4, 7, 468, -1319}, {1, 1, 0, 0}};
+        for (int p = 0; p < 5; p++) {
+            b.plate(0, p < 4 ? 0 : 2, 0);
+        }
+        for (int star = 0; star < 4; star++) {
+            b.star(all[star][0], all[star][1], 0);
+            for (int i = 0; star < 3 && i < 25; i++) {
+                int dx = Math.floorDiv(all[star][2] + i, 25);
+                int dy = Math.floorDiv(all[star][3] + i, 25);
+                b.image(i / 8, star, i % 8, sign * dx, sign * dy);
+            }
+        }
+        b.image(4, 3, 0, sign * -299, sign * 299);
+        way(b, "fit north;fit turn;fit light;check east;check scale;check bend");
+        return b;
+    }
+
+    static void promise14_threeTermsAtOnce() {
+        BlackSun b = new BlackSun();
+        int[][] stars = {{1, 2}, {3, -1}, {-2, 2}};
+        b.plate(0, 0, 0);
+        way(b, "fit scale;fit bend;fit east");
+        for (int i = 0; i < 3; i++) {
+            int x = stars[i][0];
+            int y = stars[i][1];
+            b.star(x, y, 0);
+            b.image(0, i, 0, 2 + 3 * x + 5 * x * y, 3 * y);
+        }
+        due(b.answer(0, EAST, 0), 2000);
+        due(b.answer(0, SCALE, 0), 3000);
+        due(b.answer(0, BEND, 0), 5000);
+        due(b.miss(0, 0), 0);
+        b.image(0, 2, 0, 2 - 6 - 20 + 7, 6);
+        long[] answers = exactThree(stars, 7);
+        due(b.answer(0, EAST, 0), answers[0]);
+        due(b.answer(0, SCALE, 0), answers[1]);
+        due(b.answer(0, BEND, 0), answers[2]);
+    }
+
+    /** East, scale and bend of threeTermsAtOnce with so much more in the last row in x, by Cramer's rule. */
+    private static long[] exactThree(int[][] stars, int more) {
+        long[][] m = new long[3][4];
+        for (int i = 0; i < 3; i++) {
+            int x = stars[i][0];
+            int y = stars[i][1];
+            long[] inX = {1, x, x * y, 2 + 3 * x + 5 * x * y + (i == 2 ? more : 0)};
+            long[] inY = {0, y, 0, 3 * y};
+            for (int r = 0; r < 3; r++) {
+                for (int c = 0; c < 4; c++) {
+                    m[r][c] += inX[r] * inX[c] + inY[r] * inY[c];
+                }
+            }
+        }
+        long below = det(m, 0, 1, 2);
+        return new long[] {Math.floorDiv(1000 * det(m, 3, 1, 2), below), Math.floorDiv(1000 * det(m, 0, 3, 2), below),
+            Math.floorDiv(1000 * det(m, 0, 1, 3), below)};
+    }
+
+    private static long det(long[][] m, int a, int b, int c) {
+        return m[0][a] * (m[1][b] * m[2][c] - m[1][c] * m[2][b]) - m[0][b] * (m[1][a] * m[2][c] - m[1][c] * m[2][a])
+                + m[0][c] * (m[1][a] * m[2][b] - m[1][b] * m[2][a]);
+    }
+
+    static void promise14_ofAHundredImages() {
+        BlackSun b = crowd("fit light;fit north");
+        due(b.answer(0, LIGHT, 0), 500);
+        due(b.answer(9, LIGHT, 0), 500);
+        due(b.answer(0, NORTH, 0), 0);
+    }
+
+    static void promise14_aHundredImagesWithTheirCheck() {
+        BlackSun b = new BlackSun();
+        b.plate(0, 2, 0);
+        for (int star = 0; star < 13; star++) {
+            b.star(1, 0, 0);
+        }
+        b.plate(0, 0, 0);
+        for (int i = 0; i < 99; i++) {
+            b.image(0, i % 13, i % 8, i == 98 ? 299 : 2, 0);
+        }
+        b.image(1, 0, 0, 40, 0);
+        way(b, "fit light;check east");
+        due(b.answer(0, EAST, 0), (98 * 2 + 299) * 1000 / 99);
+        due(b.answer(0, LIGHT, 0), 875);
     }
 
     static void promise14_oneNumberTooGreatLeavesNoAnswerForAnyTerm() {
@@ -512,6 +617,22 @@ public final class Edges13To18Test extends Bench {
         BlackSun b = small("fit light");
         b.image(0, 0, 0, 20, 0);
         due(b.miss(0, 0), 0);
+    }
+
+    static void promise15_nothingIsLeftOfAnotherWay() {
+        BlackSun b = small("fit east;fit north;fit light", "fit light;leave if star=1", "hold scale 0;leave if star=1");
+        b.image(0, 0, 0, 20, 3);
+        b.image(0, 1, 0, 7, 99);
+        b.miss(0, 0);
+        due(b.miss(1, 0), 9);
+        b.miss(0, 0);
+        due(b.miss(2, 0), 409);
+    }
+
+    static void promise15_ofAHundredImages() {
+        BlackSun b = crowd("hold scale 1000");
+        due(b.miss(0, 0), 100 * 19 * 19);
+        due(b.miss(9, 0), 0);
     }
 
     static void promise15_eachRowByItself() {
@@ -801,6 +922,25 @@ public final class Edges13To18Test extends Bench {
         due(b.ruled(0, LIGHT, 0, 1000, 1), 1500);
     }
 
+    static void promise17_ofSixteenPlatesOfWhichFewAreDark() {
+        BlackSun b = new BlackSun();
+        b.star(1, 0, 0);
+        way(b, "fit light");
+        for (int p = 0; p < 16; p++) {
+            b.plate(0, p == 3 || p == 15 ? 0 : 2, 0);
+        }
+        b.image(3, 0, 0, 40, 0);
+        b.image(15, 0, 0, 80, 0);
+        due(b.ruled(0, LIGHT, 0, 1000, 0), 1 << 15);
+        due(b.ruled(0, LIGHT, 0, 2000, 0), 1 << 3);
+    }
+
+    static void promise17_ofAHundredImages() {
+        BlackSun b = crowd("fit light");
+        due(b.ruled(0, LIGHT, 0, 0, 0), 0);
+        due(b.ruled(9, LIGHT, 0, 0, 1), 500);
+    }
+
     static void promise17_nightPlatesAreAmongTheEight() {
         BlackSun b = new BlackSun();
         b.star(1, 0, 0);
@@ -948,6 +1088,12 @@ public final class Edges13To18Test extends Bench {
         for (int week : NO_WEEKS) {
             due("week " + week, b.three(0, week, 0, 0, 0), -1);
         }
+    }
+
+    static void promise18_ofAHundredImages() {
+        BlackSun b = crowd("fit light;fit north");
+        due(b.three(0, 0, 475, 550, 500), 2);
+        due(b.three(9, 0, 475, 524, 500), 1);
     }
 
     static void promise18_theWayStaysAsItIs() {

@@ -164,6 +164,13 @@ public final class Edges19To26Test extends Bench {
         due(b.parter(1, 0), 0);
     }
 
+    static void promise20_ofAHundredImages() {
+        BlackSun b = crowd("fit light");
+        // Plate 0 has those of the images 0, 16, 32 and so on: stars 0, 16, 2, 18, 4, 20, 6.
+        due(b.parter(0, 0), 1);
+        due(b.mixed(0, 0, 0), 1);
+    }
+
     static void promise20_theThirtiethStar() {
         BlackSun b = new BlackSun();
         b.plate(0, 2, 0);
@@ -214,6 +221,21 @@ public final class Edges19To26Test extends Bench {
         b.image(2, 0, 0, 1, 1);
         due(b.usable(0, 4, 20), 0);
         due(b.usable(0, 5, 20), 1);
+    }
+
+    static void promise21_theCheckPlateMayBeTheFirst() {
+        BlackSun b = new BlackSun();
+        b.star(1, 0, 0);
+        b.plate(0, 2, 0);
+        b.plate(0, 0, 0);
+        b.image(0, 0, 0, 1, 1);
+        due(b.usable(1, 0, 0), 1);
+    }
+
+    static void promise21_ofSixteenPlates() {
+        BlackSun b = crowd("fit light");
+        due(b.usable(15, 0, 99), 0);
+        due(b.usable(16, 0, 99), -1);
     }
 
     static void promise21_ofItsIslandAlone() {
@@ -484,6 +506,19 @@ public final class Edges19To26Test extends Bench {
         due(b.leans(7, 0, 1, 1), 1);
     }
 
+    static void promise24_ofAHundredImages() {
+        BlackSun b = small();
+        for (int i = 0; i < 84; i++) {
+            b.image(1, 1, 7, i, 0);
+        }
+        for (int i = 0; i < 16; i++) {
+            due(b.image(0, i / 8, i % 8, i % 8 == 0 ? 10 : 3, 0), 84 + i);
+        }
+        due(b.leans(0, 0, 0, 0), 7);
+        due(b.leans(0, 0, 0, 1), 1);
+        due(b.leans(7, 0, 0, 0), -1);
+    }
+
     static void promise24_withoutThese() {
         BlackSun b = small();
         for (int hand : NO_HANDS) {
@@ -572,6 +607,12 @@ public final class Edges19To26Test extends Bench {
         BlackSun b = joint();
         way(b, "hold light 77");
         due(b.joined(1, 0, 0, 1), 77);
+    }
+
+    static void promise25_ofSixteenPlatesAndAHundredImages() {
+        BlackSun b = crowd("fit light");
+        due(b.joined(0, 0, 0, 3), 500);
+        due(b.joined(9, 0, 2, 1), 500);
     }
 
     static void promise25_twoIslands() {

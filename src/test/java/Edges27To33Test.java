@@ -376,7 +376,7 @@ public final class Edges27To33Test extends Bench {
             int dark = slipOf(x0, 9);
             int night = slipOf(next(next(x0)), 9);
             int light = Math.floorDiv(1000 * (40 + dark + night), 40);
-            due("seed " + seed, b.right(0, seed, 1000, 9, 1, 99), Math.abs(light - 1000) <= 99 ? 1 : 0);
+            due("seed " + seed, b.right(0, seed, 1010, 9, 1, 99), Math.abs(light - 1010) <= 99 ? 1 : 0);
         }
     }
 
@@ -385,8 +385,41 @@ public final class Edges27To33Test extends Bench {
         b.image(0, 0, 0, 0, 0);
         for (int seed = 0; seed < 100; seed++) {
             int light = Math.floorDiv(1000 * (40 + slipOf(next(seed), 99)), 40);
-            due("seed " + seed, b.right(0, seed, 1000, 99, 1, 1500), Math.abs(light - 1000) <= 1500 ? 1 : 0);
+            due("seed " + seed, b.right(0, seed, 1024, 99, 1, 1500), Math.abs(light - 1024) <= 1500 ? 1 : 0);
         }
+    }
+
+    static void promise31_aSlipIsPutToWhatLightGives() {
+        BlackSun b = small("fit light");
+        b.image(0, 0, 0, 0, 0);
+        for (int seed = 0; seed < 20; seed++) {
+            // 1024 thousandths of 40 are 40 hairs, so that a slip and its contrary are not as near to the law.
+            int off = Math.abs(Math.floorDiv(1000 * (40 + slipOf(next(seed), 9)), 40) - 1024);
+            due("seed " + seed, b.right(0, seed, 1024, 9, 1, off), 1);
+            due("seed " + seed, b.right(0, seed, 1024, 9, 1, off - 1), 0);
+        }
+    }
+
+    static void promise31_withThreeFittedTerms() {
+        BlackSun b = small("fit light;fit east;fit north");
+        b.image(0, 0, 0, 0, 0);
+        b.image(0, 1, 0, 0, 0);
+        due(b.right(0, 1, 1000, 0, 50, 0), 50);
+    }
+
+    static void promise31_ofAHundredImages() {
+        BlackSun b = crowd("fit light");
+        due(b.right(0, 1, 1000, 0, 50, 0), 50);
+        long x0 = 77;
+        int all = 0;
+        for (int image = 0; image < 100; image++) {
+            x0 = next(x0);
+            all += slipOf(x0, 99);
+            x0 = next(x0);
+        }
+        int off = Math.abs(Math.floorDiv(1000 * (4000 + all), 4000) - 1024);
+        due(b.right(0, 77, 1024, 99, 1, off), 1);
+        due(b.right(0, 77, 1024, 99, 1, off - 1), 0);
     }
 
     static void promise31_seedsGoFrom0To2147483647() {
@@ -459,8 +492,9 @@ public final class Edges27To33Test extends Bench {
         BlackSun b = small("fit light;check east");
         b.image(0, 0, 0, 0, 0);
         b.image(2, 0, 0, 4, 0);
-        due(b.right(0, 1, 500, 0, 5, 99), 0);
-        due(b.right(0, 1, 500, 0, 5, 100), 5);
+        // 20 hairs less 4 are 400.
+        due(b.right(0, 1, 510, 0, 5, 109), 0);
+        due(b.right(0, 1, 510, 0, 5, 110), 5);
     }
 
     static void promise31_whatTheWayTakesNow() {
@@ -584,6 +618,12 @@ public final class Edges27To33Test extends Bench {
         due(b.span(0, 0, 1), 1000);
         due(b.span(1, 0, 0), 500);
         due(b.span(1, 0, 1), 2000);
+    }
+
+    static void promise32_ofAHundredImages() {
+        BlackSun b = crowd("fit light");
+        due(b.span(0, 0, 0), 500);
+        due(b.span(9, 0, 1), 500);
     }
 
     static void promise32_withoutThese() {

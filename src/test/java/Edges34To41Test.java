@@ -244,6 +244,13 @@ public final class Edges34To41Test extends Bench {
         due(b.off(0, 0, 99999), 8L * (4298 * 4298 + 299 * 299));
     }
 
+    static void promise36_ofAHundredImages() {
+        BlackSun b = crowd("fit light");
+        due(b.off(0, 0, 0), 7 * 400);
+        due(b.off(15, 0, 0), 6 * 400);
+        due(b.off(15, 0, 500), 0);
+    }
+
     static void promise36_lightGoesFrom0To99999() {
         BlackSun b = small();
         due(b.off(0, 0, 0), 0);
@@ -342,6 +349,12 @@ public final class Edges34To41Test extends Bench {
         due(b.heat(1, 0, 500), 40);
     }
 
+    static void promise37_ofAHundredImages() {
+        BlackSun b = crowd("fit light");
+        b.glass(3, EAST, 0, 50);
+        due(b.heat(15, 0, 475), 20);
+    }
+
     static void promise37_withoutThese() {
         BlackSun b = small();
         b.image(0, 0, 0, 1, 1);
@@ -414,6 +427,45 @@ public final class Edges34To41Test extends Bench {
         b.image(0, 0, 1, 0, -3);
         due(b.again(0, 1, 0, 4), 0);
         due(b.again(0, 1, 0, 5), 0);
+    }
+
+    static void promise38_theFirstOfSeveralInWhateverOrderTheyWereTold() {
+        int[][][] orders = {{{0, 0}, {0, 1}, {1, 0}}, {{0, 1}, {1, 0}, {2, 0}}, {{0, 1}, {1, 1}, {1, 0}},
+            {{1, 0}, {0, 1}, {2, 0}}, {{2, 1}, {1, 0}, {1, 1}}, {{2, 0}, {0, 1}, {0, 0}}};
+        int[] plates = {0, 0, 0, 0, 1, 0};
+        int[] stars = {0, 1, 1, 1, 0, 0};
+        for (int i = 0; i < orders.length; i++) {
+            BlackSun b = small();
+            for (int[] place : orders[i]) {
+                b.image(place[0], place[1], 0, 0, 0);
+                b.image(place[0], place[1], 1, 0, 3);
+            }
+            due("order " + i, b.again(0, 1, 0, 4), plates[i]);
+            due("order " + i, b.again(0, 1, 0, 5), stars[i]);
+        }
+    }
+
+    static void promise38_aLesserMoveAheadOfTheGreatestIsNotIt() {
+        BlackSun b = small();
+        b.image(1, 1, 0, 0, 0);
+        b.image(1, 1, 1, 3, 0);
+        b.image(0, 0, 0, 0, 0);
+        b.image(0, 0, 1, 2, 2);
+        due(b.again(0, 1, 0, 3), 9);
+        due(b.again(0, 1, 0, 4), 1);
+        due(b.again(0, 1, 0, 5), 1);
+    }
+
+    static void promise38_ofAHundredImages() {
+        BlackSun b = small();
+        for (int i = 0; i < 98; i++) {
+            b.image(1, 1, 7, i, 0);
+        }
+        b.image(1, 1, 0, 90, 0);
+        b.image(0, 0, 0, 5, 0);
+        due(b.again(0, 7, 0, 0), 1);
+        due(b.again(0, 7, 0, 1), 7);
+        due(b.again(0, 6, 0, 0), 0);
     }
 
     static void promise38_aGreaterMoveBehindTheFirst() {
@@ -583,6 +635,86 @@ public final class Edges34To41Test extends Bench {
         tape(b, "fit");
         due(b.back(0), 8);
         dueFull(b);
+    }
+
+    static void promise40_fromOneMarkToAnother() {
+        BlackSun b = new BlackSun();
+        b.mark(0);
+        tellAll(b);
+        b.plate(3, 1, 77);
+        b.glass(3, NORTH, 100, 99);
+        b.mark(1);
+        b.back(0);
+        tellOther(b);
+        b.mark(2);
+        due(b.back(1), 8);
+        dueThis(b);
+        due(b.back(2), 2);
+        dueOther(b);
+        due(b.back(1), 8);
+        dueThis(b);
+        due(b.back(0), 0);
+        dueCounts(b, 0, 0, 0, 0, 0, 0, 0);
+    }
+
+    private static void dueThis(BlackSun b) {
+        dueCounts(b, 8, 1, 2, 2, 1, 1, 1);
+        due(b.stars(0, 0), 1);
+        due(b.stars(0, 1), 0);
+        due(b.stars(0, 2), 5);
+        due(b.images(0, 0, 0, 7, 0), 20);
+        due(b.images(0, 0, 0, 8, 0), 40);
+        due(b.images(0, 0, 0, 8, 1), 7);
+        due(b.images(0, 0, 3, 8, 0), -1000);
+        due(b.ways(0, LIGHT), 1);
+        due(b.ways(0, BEND), 0);
+        due(b.could(0, 0, false), 1);
+        due(b.planned(8, 0), 0);
+        due(b.planned(9, 1), 1600);
+        due(b.knows(1, 3), 1);
+        due(b.knows(4, 9999), 0);
+        due(b.stands(0, 0, 0, 0), 2);
+        due(b.stands(1, 0, 0, 1), 7);
+        due(b.stands(1, 0, 1000, 0), 0);
+        due(b.usable(0, 8, 99), 0);
+        due(b.usable(1, 8, 99), -1);
+    }
+
+    /** Other things at the numbers that tellAll gives. */
+    private static void tellOther(BlackSun b) {
+        b.star(-2, 3, 9);
+        b.plate(1, 2, 50);
+        b.plate(1, 0, 60);
+        b.clock(2);
+        b.image(0, 0, 3, -7, -8);
+        b.image(1, 0, 3, 2, -3);
+        b.end(0);
+        way(b, "check bend;hand 3");
+        b.say(0, 0);
+        b.field(3, 0);
+        b.glass(1, EAST, 1000, 0);
+        b.tell(4, 1);
+    }
+
+    private static void dueOther(BlackSun b) {
+        dueCounts(b, 2, 1, 2, 2, 1, 1, 1);
+        due(b.stars(0, 0), -2);
+        due(b.stars(0, 1), 3);
+        due(b.stars(0, 2), 9);
+        due(b.images(0, 0, 0, 9999, 0), -1000);
+        due(b.images(0, 0, 3, 2, 0), -7);
+        due(b.images(1, 0, 3, 2, 1), -3);
+        due(b.images(1, 0, 3, 1, 1), -1000);
+        due(b.ways(0, LIGHT), 0);
+        due(b.ways(0, BEND), 3);
+        due(b.could(0, 0, false), 1);
+        due(b.planned(99, 0), 0);
+        due(b.knows(1, 9999), 0);
+        due(b.knows(4, 1), 1);
+        due(b.stands(0, 0, 0, 0), 1);
+        due(b.usable(0, 2, 99), -1);
+        due(b.usable(1, 2, 9), 0);
+        due(b.usable(1, 2, 10), 1);
     }
 
     static void promise40_theTapeStays() {
