@@ -702,9 +702,9 @@ public final class Edges01To10Test extends Bench {
     }
 
     static void promise10_whatIsCutOffIsNotRead() {
-        String[] texts = {"leave if x<=1", "hand 12", "fit lights", "fit light;fit"};
-        int[] cuts = {11, 6, 9, 9};
-        int[] answers = {fault(11, 0), 0, 0, 0};
+        String[] texts = {"leave if x<=1", "hand 12", "fit lights", "fit light;fit", "fit         ", "hold bend   -5"};
+        int[] cuts = {11, 6, 9, 9, 4, 10};
+        int[] answers = {fault(11, 0), 0, 0, 0, fault(4, 0), fault(10, 0)};
         for (int i = 0; i < texts.length; i++) {
             BlackSun b = new BlackSun();
             tape(b, texts[i]);

@@ -147,6 +147,24 @@ public final class Edges13To18Test extends Bench {
         }
     }
 
+    static void promise13_eachSignWithinNotAndOr() {
+        String[] signs = {"<", "<=", "=", ">=", ">"};
+        for (int i = 0; i < 5; i++) {
+            for (int value = 3; value <= 5; value++) {
+                String fact = "y" + signs[i] + value;
+                boolean isTrue = value < 4 ? i >= 3 : value > 4 ? i <= 1 : i >= 1 && i <= 3;
+                leaves("not " + fact, !isTrue);
+                leaves("not not " + fact, isTrue);
+                leaves(fact + " and 1=1", isTrue);
+                leaves("1=1 and " + fact, isTrue);
+                leaves(fact + " or 1=2", isTrue);
+                leaves("1=2 or " + fact, isTrue);
+                leaves(fact + " and 1=2", false);
+                leaves(fact + " or 1=1", true);
+            }
+        }
+    }
+
     static void promise13_sumsGoFromTheLeft() {
         leaves("10-2-3=5", true);
         leaves("10-2+3=11", true);
@@ -358,6 +376,27 @@ public final class Edges13To18Test extends Bench {
     private static long det(long[][] m, int a, int b, int c) {
         return m[0][a] * (m[1][b] * m[2][c] - m[1][c] * m[2][b]) - m[0][b] * (m[1][a] * m[2][c] - m[1][c] * m[2][a])
                 + m[0][c] * (m[1][a] * m[2][b] - m[1][b] * m[2][a]);
+    }
+
+    static void promise14_heldTermsBesideTwoFittedStayAsTold() {
+        BlackSun b = small("fit light;fit scale;hold east 3000;hold bend 2000", "fit east;fit north;fit bend");
+        b.image(0, 0, 0, 20, 0);
+        b.image(0, 1, 0, 0, 20);
+        due(b.answer(0, EAST, 0), 3000);
+        due(b.answer(0, BEND, 0), 2000);
+        due(b.answer(1, EAST, 0), NO_ANSWER);
+        due(b.answer(0, EAST, 0), 3000);
+        due(b.answer(0, BEND, 0), 2000);
+    }
+
+    static void promise14_heldTermsBesideOneFittedStayAsTold() {
+        BlackSun b = small("fit light;hold east 3000;hold bend 2000", "fit scale;fit bend;fit north");
+        b.image(0, 0, 0, 20, 0);
+        due(b.answer(0, EAST, 0), 3000);
+        due(b.answer(0, BEND, 0), 2000);
+        due(b.answer(1, BEND, 0), NO_ANSWER);
+        due(b.answer(0, EAST, 0), 3000);
+        due(b.answer(0, BEND, 0), 2000);
     }
 
     static void promise14_ofAHundredImages() {
@@ -706,6 +745,19 @@ public final class Edges13To18Test extends Bench {
         due(b.miss(0, 0), 8 * (darkX * darkX + darkY * darkY + nightX * nightX + nightY * nightY));
     }
 
+    static void promise15_asKnownInTheWeek() {
+        BlackSun b = small("fit light", "hold light 0");
+        b.clock(5);
+        b.image(0, 0, 0, 20, 3);
+        b.clock(6);
+        b.image(0, 0, 0, 40, 4);
+        due(b.miss(0, 4), -1);
+        due(b.miss(0, 5), 9);
+        due(b.miss(0, 6), 16);
+        due(b.miss(1, 5), 409);
+        due(b.miss(0, 9999), 16);
+    }
+
     static void promise15_withoutTheWay() {
         BlackSun b = small("fit light");
         b.image(0, 0, 0, 1, 1);
@@ -795,6 +847,21 @@ public final class Edges13To18Test extends Bench {
         due(b.each(1, 0, 0, 1), -5);
     }
 
+    static void promise16_asKnownInTheWeek() {
+        BlackSun b = small("fit light");
+        b.clock(5);
+        b.image(0, 0, 0, 20, 0);
+        b.clock(6);
+        b.image(0, 0, 0, 40, 0);
+        b.image(0, 1, 0, 0, 60);
+        due(b.each(0, 4, 0, 1), NO_ANSWER);
+        due(b.each(0, 5, 0, 1), 500);
+        due(b.each(0, 5, 1, 1), 500);
+        due(b.each(0, 6, 1, 1), 1000);
+        due(b.each(0, 5, 1, 0), NO_ANSWER);
+        due(b.each(0, 9999, 1, 0), 3000);
+    }
+
     static void promise16_withoutThePlateOrTheStar() {
         BlackSun b = small("fit light");
         b.image(0, 0, 0, 20, 0);
@@ -876,6 +943,18 @@ public final class Edges13To18Test extends Bench {
         due(b.ruled(0, LIGHT, 0, 0, 1), 5000);
     }
 
+    static void promise17_behindASetWithoutAnAnswerOthersCount() {
+        BlackSun b = small("fit light;fit scale");
+        b.plate(0, 0, 0);
+        b.image(0, 0, 0, 43, 0);
+        b.image(0, 1, 0, 0, 26);
+        b.image(3, 0, 0, 20, 0);
+        // Without plate 0 there is one star alone, and several numbers; without plate 3 light is 1000, and scale 3000.
+        due(b.ruled(0, LIGHT, 0, 1000, 0), 8);
+        due(b.ruled(0, LIGHT, 0, 1000, 1), 1000);
+        due(b.ruled(0, SCALE, 0, 3000, 1), 3000);
+    }
+
     static void promise17_theNearestFromAboveOrBelow() {
         BlackSun b = plates(1, 7);
         due(b.ruled(0, LIGHT, 0, 2499, 1), 1000);
@@ -890,6 +969,8 @@ public final class Edges13To18Test extends Bench {
         due(plates(1, 7).ruled(0, LIGHT, 0, 5500, 0), 0);
         // Without plate 2 it is 3000, and without plates 0 and 1, whose number is less, too; plate 8 always stays.
         due(plates(1, 4, 2, 0, 0, 0, 0, 0, 4).ruled(0, LIGHT, 0, 3000, 0), 4);
+        due(plates(1, 4, 2, 0, 0, 0, 0, 0, 4).ruled(0, LIGHT, 0, 3001, 0), 4);
+        due(plates(1, 4, 2, 0, 0, 0, 0, 0, 4).ruled(0, LIGHT, 0, 2999, 0), 4);
     }
 
     static void promise17_ofAsManyTheLeastNumber() {
@@ -994,6 +1075,19 @@ public final class Edges13To18Test extends Bench {
         }
     }
 
+    static void promise17_asKnownInTheWeek() {
+        BlackSun b = small("fit light");
+        b.plate(0, 0, 0);
+        b.clock(5);
+        b.image(0, 0, 0, 20, 0);
+        b.clock(6);
+        b.image(3, 0, 0, 60, 0);
+        due(b.ruled(0, LIGHT, 4, 1500, 0), NO_ANSWER);
+        due(b.ruled(0, LIGHT, 5, 1500, 1), 500);
+        due(b.ruled(0, LIGHT, 6, 1500, 1), 1500);
+        due(b.ruled(0, LIGHT, 9999, 1500, 0), 1);
+    }
+
     static void promise17_withoutTheWayOrTheWeek() {
         for (int way : NO_WAYS) {
             due("way " + way, plates(1).ruled(way, LIGHT, 0, 0, 0), NOT_THERE);
@@ -1077,6 +1171,25 @@ public final class Edges13To18Test extends Bench {
             due("b " + number, b.three(0, 0, 0, number, 0), -1);
             due("c " + number, b.three(0, 0, 0, 0, number), -1);
         }
+    }
+
+    static void promise18_asKnownInTheWeek() {
+        BlackSun b = small("fit light", "fit light;check east");
+        b.clock(5);
+        b.image(0, 0, 0, 20, 0);
+        b.image(2, 0, 0, 0, 0);
+        b.clock(6);
+        b.image(0, 0, 0, 40, 0);
+        b.clock(7);
+        b.image(2, 0, 0, 20, 0);
+        due(b.three(0, 4, 1500, 500, 1000), -2);
+        due(b.three(0, 5, 1500, 500, 1000), 1);
+        due(b.three(0, 6, 1500, 500, 1000), 2);
+        due(b.three(0, 9999, 1500, 500, 1000), 2);
+        due(b.three(1, 4, 1500, 500, 1000), -2);
+        due(b.three(1, 5, 1500, 500, 1000), 1);
+        due(b.three(1, 6, 1500, 500, 1000), 2);
+        due(b.three(1, 7, 1500, 500, 1000), 1);
     }
 
     static void promise18_withoutTheWayOrTheWeek() {

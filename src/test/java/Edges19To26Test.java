@@ -156,6 +156,39 @@ public final class Edges19To26Test extends Bench {
         due(b.parter(0, 5), -1);
     }
 
+    static void promise20_whatStandsThereIsAsKnownInTheWeek() {
+        BlackSun b = new BlackSun();
+        b.plate(0, 0, 0);
+        int[][] stars = {{1, 0}, {0, 1}, {9, 9}, {9, -9}, {-9, 9}};
+        for (int[] star : stars) {
+            b.star(star[0], star[1], 0);
+        }
+        b.clock(5);
+        b.image(0, 0, 0, 3, 3);
+        b.clock(6);
+        b.image(0, 3, 0, 3, 3);
+        b.image(0, 4, 0, 3, 3);
+        // A far star parts best beside a near one, and a near star beside one near and two far ones.
+        due(b.parter(0, 4), 0);
+        due(b.parter(0, 5), 2);
+        due(b.parter(0, 6), 1);
+        due(b.parter(0, 9999), 1);
+    }
+
+    static void promise20_aStarIsOneWhateverHandsThereAre() {
+        BlackSun b = new BlackSun();
+        b.plate(0, 0, 0);
+        b.star(1, 0, 0);
+        b.star(5, 5, 0);
+        b.star(5, 4, 0);
+        // Beside two such near stars (5, 5) would part better.
+        b.image(0, 0, 0, 3, 3);
+        due(b.parter(0, 0), 2);
+        b.image(0, 0, 7, 3, 3);
+        b.image(0, 0, 7, 4, 4);
+        due(b.parter(0, 0), 2);
+    }
+
     static void promise20_anImageOnAnotherPlateIsNone() {
         BlackSun b = small();
         b.image(0, 0, 0, 3, 3);
@@ -495,6 +528,32 @@ public final class Edges19To26Test extends Bench {
         due(b.leans(0, 6, 0, 0), 4);
     }
 
+    static void promise24_itsOwnImageIsAsKnownInTheWeek() {
+        BlackSun b = small();
+        b.image(0, 0, 1, 2, 0);
+        b.clock(5);
+        b.image(0, 0, 0, 5, 0);
+        b.clock(6);
+        b.image(0, 0, 0, 9, 0);
+        due(b.leans(0, 4, 0, 0), 0);
+        due(b.leans(0, 4, 0, 1), 1);
+        due(b.leans(0, 5, 0, 0), 3);
+        due(b.leans(0, 6, 0, 0), 7);
+        due(b.leans(0, 9999, 0, 0), 7);
+    }
+
+    static void promise24_imagesOfAnotherStarOrPlateAreNotOfThePlace() {
+        BlackSun b = small();
+        b.image(0, 0, 0, 5, 0);
+        b.image(0, 1, 1, 1, 0);
+        b.image(1, 0, 1, 2, 0);
+        due(b.leans(0, 0, 0, 0), 0);
+        due(b.leans(0, 0, 0, 1), 1);
+        b.image(0, 0, 1, 4, 0);
+        due(b.leans(0, 0, 0, 0), 1);
+        due(b.leans(0, 0, 0, 1), 1);
+    }
+
     static void promise24_theGreatestLean() {
         BlackSun b = new BlackSun();
         b.plate(0, 0, 0);
@@ -613,6 +672,19 @@ public final class Edges19To26Test extends Bench {
         BlackSun b = crowd("fit light");
         due(b.joined(0, 0, 0, 3), 500);
         due(b.joined(9, 0, 2, 1), 500);
+    }
+
+    static void promise25_asKnownInTheWeek() {
+        BlackSun b = joint();
+        b.clock(5);
+        b.image(0, 0, 0, 40, 0);
+        b.plate(2, 0, 0);
+        b.image(3, 0, 0, 80, 0);
+        due(b.joined(0, 4, 0, 1), 841);
+        due(b.joined(0, 5, 0, 1), (1000 + 2 * 1012) / 3);
+        due(b.joined(0, 4, 0, 2), NO_ANSWER);
+        due(b.joined(0, 5, 0, 2), 1500);
+        due(b.joined(0, 9999, 0, 2), 1500);
     }
 
     static void promise25_twoIslands() {

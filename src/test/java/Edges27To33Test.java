@@ -626,6 +626,35 @@ public final class Edges27To33Test extends Bench {
         due(b.span(9, 0, 1), 500);
     }
 
+    static void promise32_asKnownInTheWeek() {
+        BlackSun b = small("fit light");
+        b.clock(5);
+        b.image(0, 0, 0, 20, 0);
+        b.clock(6);
+        b.image(0, 1, 0, 0, 40);
+        due(b.span(0, 4, 1), NO_ANSWER);
+        due(b.span(0, 5, 1), 500);
+        due(b.span(0, 6, 1), 2000);
+        due(b.span(0, 9999, 0), 500);
+    }
+
+    static void promise32_withNothingLeftOutItMayHaveNone() {
+        BlackSun b = new BlackSun();
+        int[][] all = {{6, -9, 288, -125}, {-7, 8, -298, -71}, {-9, 6, 287, -27}, {1, 1, 299, -299}};
+        b.plate(0, 0, 0);
+        b.plate(0, 2, 0);
+        for (int i = 0; i < 4; i++) {
+            b.star(all[i][0], all[i][1], 0);
+            b.image(i / 3, i, 0, all[i][2], all[i][3]);
+        }
+        way(b, "fit east;fit scale;fit bend;check north;check turn;check light");
+        due(b.answer(0, LIGHT, 0), NO_ANSWER);
+        due(b.each(0, 0, 1, 0), 0);
+        due(b.each(0, 0, 1, 1), NO_ANSWER);
+        due(b.span(0, 0, 0), 0);
+        due(b.span(0, 0, 1), 0);
+    }
+
     static void promise32_withoutThese() {
         BlackSun b = small("fit light");
         b.image(0, 0, 0, 20, 0);

@@ -236,6 +236,26 @@ public final class Edges34To41Test extends Bench {
         due(b.off(0, 5, 0), 4);
     }
 
+    static void promise36_byItsHeatAsTold() {
+        BlackSun b = small();
+        b.plate(3, 0, 60);
+        b.glass(3, EAST, 0, 50);
+        b.image(3, 0, 0, 10, 0);
+        due(b.off(3, 0, 0), 49);
+        due(b.off(3, 0, 100), 9);
+    }
+
+    static void promise36_eachImageByItsStar() {
+        BlackSun b = small();
+        b.star(-3, 4, 0);
+        b.glass(0, SCALE, 1000, 0);
+        b.image(0, 2, 5, 10, 20);
+        due(b.off(0, 0, 0), 13 * 13 + 16 * 16);
+        due(b.off(0, 0, 1000), 17 * 17 + 10 * 10);
+        b.image(1, 1, 5, 10, 20);
+        due(b.off(1, 0, 0), 10 * 10 + 18 * 18);
+    }
+
     static void promise36_aGreatOff() {
         BlackSun b = small();
         for (int hand = 0; hand < 8; hand++) {
@@ -355,6 +375,19 @@ public final class Edges34To41Test extends Bench {
         due(b.heat(15, 0, 475), 20);
     }
 
+    static void promise37_asKnownInTheWeek() {
+        BlackSun b = small();
+        b.glass(0, EAST, 0, 50);
+        b.clock(5);
+        b.image(0, 0, 0, 1, 0);
+        b.clock(6);
+        b.image(0, 0, 0, 2, 0);
+        due(b.heat(0, 4, 0), -1);
+        due(b.heat(0, 5, 0), 20);
+        due(b.heat(0, 6, 0), 40);
+        due(b.heat(0, 9999, 0), 40);
+    }
+
     static void promise37_withoutThese() {
         BlackSun b = small();
         b.image(0, 0, 0, 1, 1);
@@ -445,6 +478,22 @@ public final class Edges34To41Test extends Bench {
         }
     }
 
+    static void promise38_ofSeveralOnAPlateTheLeastStarWhateverHands() {
+        BlackSun b = small();
+        b.star(-3, 4, 0);
+        for (int star = 2; star >= 1; star--) {
+            b.image(2, star, 5, 0, 0);
+            b.image(2, star, 6, 0, 3);
+        }
+        due(b.again(5, 6, 0, 4), 2);
+        due(b.again(5, 6, 0, 5), 1);
+        b.image(2, 0, 5, 0, 0);
+        b.image(2, 0, 6, -3, 0);
+        due(b.again(5, 6, 0, 4), 2);
+        due(b.again(5, 6, 0, 5), 0);
+        due(b.again(6, 5, 0, 5), 0);
+    }
+
     static void promise38_aLesserMoveAheadOfTheGreatestIsNotIt() {
         BlackSun b = small();
         b.image(1, 1, 0, 0, 0);
@@ -479,6 +528,20 @@ public final class Edges34To41Test extends Bench {
         due(b.again(0, 1, 0, 3), 10);
         due(b.again(0, 1, 0, 4), 2);
         due(b.again(0, 1, 0, 5), 1);
+    }
+
+    static void promise38_allDxAndAllDyTogether() {
+        BlackSun b = small();
+        b.image(0, 0, 0, 1, 2);
+        b.image(0, 0, 1, 4, 7);
+        b.image(1, 1, 0, 10, 20);
+        b.image(1, 1, 1, 3, 9);
+        b.image(2, 0, 0, 0, 0);
+        b.image(2, 0, 1, -1, -2);
+        due(b.again(0, 1, 0, 0), 3);
+        due(b.again(0, 1, 0, 1), 3 - 7 - 1);
+        due(b.again(0, 1, 0, 2), 5 - 11 - 2);
+        due(b.again(0, 1, 0, 3), 49 + 121);
     }
 
     static void promise38_theGreatestMove() {
@@ -715,6 +778,78 @@ public final class Edges34To41Test extends Bench {
         due(b.usable(0, 2, 99), -1);
         due(b.usable(1, 2, 9), 0);
         due(b.usable(1, 2, 10), 1);
+    }
+
+    static void promise40_eachImageIsOfItsStarAndItsWeekAgain() {
+        BlackSun b = small();
+        b.mark(0);
+        b.image(0, 1, 0, 5, 6);
+        b.mark(1);
+        b.back(0);
+        b.clock(4);
+        b.image(2, 0, 7, 8, 9);
+        b.mark(2);
+        b.back(1);
+        due(b.images(0, 1, 0, 0, 0), 5);
+        due(b.images(0, 1, 0, 0, 1), 6);
+        due(b.images(2, 0, 7, 9999, 0), -1000);
+        b.back(2);
+        due(b.images(2, 0, 7, 4, 0), 8);
+        due(b.images(2, 0, 7, 4, 1), 9);
+        due(b.images(2, 0, 7, 3, 0), -1000);
+        due(b.images(0, 1, 0, 9999, 0), -1000);
+    }
+
+    static void promise40_whatWasSaidIsOfItsWayItsWeekAndItsNumberAgain() {
+        BlackSun b = small("hold light 77", "hold light 5", "fit light");
+        b.image(0, 0, 0, 20, 0);
+        b.mark(0);
+        b.say(1, 5);
+        b.mark(1);
+        b.back(0);
+        b.clock(3);
+        b.say(2, 500);
+        b.clock(4);
+        b.image(0, 0, 0, 40, 0);
+        b.mark(2);
+        b.back(1);
+        due(b.could(0, 0, false), 1);
+        due(b.could(0, 0, true), 1);
+        b.back(2);
+        due(b.could(0, 0, false), 1);
+        due(b.could(0, 0, true), 0);
+    }
+
+    static void promise40_eachIslandsGlassIsAsItWas() {
+        BlackSun b = small();
+        b.star(2, 3, 0);
+        for (int island = 0; island < 4; island++) {
+            b.plate(island, 0, 50);
+        }
+        b.mark(0);
+        for (int island = 0; island < 4; island++) {
+            for (int term : new int[] {EAST, NORTH, SCALE, TURN, BEND}) {
+                b.glass(island, term, 1000 * (1 + island), 0);
+                b.mark(1);
+                b.back(0);
+                // Fifty degrees make as much of it.
+                b.glass(island, term, 0, 20 * (1 + island));
+                b.mark(2);
+                b.back(0);
+                String which = "island " + island + ", term " + term;
+                for (int axis = 0; axis < 2; axis++) {
+                    due(which + " at first", b.stands(3 + island, 2, 0, axis), 0);
+                }
+                for (int mark = 1; mark <= 2; mark++) {
+                    b.back(mark);
+                    for (int axis = 0; axis < 2; axis++) {
+                        int due = (1 + island) * b.gives(term, 2, axis);
+                        due(which + ", mark " + mark, b.stands(3 + island, 2, 0, axis), due);
+                    }
+                }
+                b.back(0);
+            }
+        }
     }
 
     static void promise40_theTapeStays() {
