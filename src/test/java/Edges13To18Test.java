@@ -312,6 +312,22 @@ public final class Edges13To18Test extends Bench {
         due(greatMeans(-1).answer(0, NORTH, 0), -99999999);
     }
 
+    /** East is 14299999900 / 143 thousandths here, 0.3 above 99999999: told downwards it is not above. */
+    static void promise14_aNumberIsJudgedAsTold() {
+        due(greatBetween(1).answer(0, EAST, 0), 99999999);
+    }
+
+    static void promise14_aNumberIsJudgedAsToldBelowZero() {
+        due(greatBetween(-1).answer(0, EAST, 0), NO_ANSWER);
+    }
+
+    /** As great, with two images of the second star, so that east need not be a multiple of 1000 / 587 thousandths. */
+    private static BlackSun greatBetween(int sign) {
+        BlackSun b = great(new int[] {125, 280, -232, -128, 194, 277}, sign);
+        b.image(0, 1, 1, sign * -155, sign * -171);
+        return b;
+    }
+
     /** North, turn and light are almost one here; each star has 25 images, so that north is so many thousandths exactly. */
     private static BlackSun greatMeans(int sign) {
         BlackSun b = new BlackSun();
